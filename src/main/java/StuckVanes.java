@@ -92,17 +92,18 @@ public final class StuckVanes {
         if (!isUpTo(what, 1)) {
             return OUTSIDE;
         }
-        if (!tryPad()) {
+        int why = weeks.tryAll(pad, now);
+        if (why == NO) {
             return NO;
         }
-        if (weeks.reason == 0) {
+        if (why == 0) {
             return NONE;
         }
-        return what == 0 ? weeks.acts : weeks.reason;
+        return what == 0 ? weeks.acts : why;
     }
 
     public int done() {
-        if (!canAllBeDone()) {
+        if (weeks.tryAll(pad, now) != 0) {
             return NO;
         }
         now.becomeLike(weeks.world);
@@ -117,14 +118,14 @@ public final class StuckVanes {
         if (!isUpTo(what, 2)) {
             return OUTSIDE;
         }
-        return canAllBeDone() ? weeks.world.tell(parish, what) : NO;
+        return weeks.tryAll(pad, now) == 0 ? weeks.world.tell(parish, what) : NO;
     }
 
     public int then(int what) {
         if (!isUpTo(what, 6)) {
             return OUTSIDE;
         }
-        if (!canAllBeDone()) {
+        if (weeks.tryAll(pad, now) != 0) {
             return NO;
         }
         World last = weeks.world;
@@ -312,19 +313,6 @@ public final class StuckVanes {
         return n == 0 ? image0 : image1;
     }
 
-    /** Tries the WEEKS on the PAD, unless there is a FAULT: whether it did. */
-    private boolean tryPad() {
-        if (pad.read() != NONE) {
-            return false;
-        }
-        weeks.tryAll(pad, now);
-        return true;
-    }
-
-    private boolean canAllBeDone() {
-        return tryPad() && weeks.reason == 0;
-    }
-
     private static boolean isUpTo(int number, int most) {
         return number >= 0 && number <= most;
     }
@@ -403,7 +391,7 @@ public final class StuckVanes {
         }
 
         boolean isThere(int parish) {
-            return isParish(parish) && hasBit(there, parish);
+            return parish >= 0 && parish < PARISHES && (there >> parish & 1) != 0;
         }
 
         int parishesThere() {
@@ -624,16 +612,20 @@ public final class StuckVanes {
     private static final class Weeks {
         private final World world = new World();
         private int acts;
-        private int reason;
         private int heldAct;
         private int heldThing;
 
-        /** Tries the ACTS up to the first that can not be. */
-        void tryAll(Pad pad, World from) {
-            startFrom(from);
-            for (int act = 0; act < pad.acts && reason == 0; act++) {
-                tryAct(pad.kinds[act], pad.parishes[act], pad.numbers[act]);
+        /** Tries the ACTS up to the first that can not be: the reason; 0: there is none; NO: there is a FAULT. */
+        int tryAll(Pad pad, World from) {
+            if (pad.read() != NONE) {
+                return NO;
             }
+            startFrom(from);
+            int reason = 0;
+            for (int act = 0; act < pad.acts && reason == 0; act++) {
+                reason = tryAct(pad.kinds[act], pad.parishes[act], pad.numbers[act]);
+            }
+            return reason;
         }
 
         /** Draws the ACTS of A YEAR and passes over those that can not be. */
@@ -650,15 +642,15 @@ public final class StuckVanes {
         private void startFrom(World from) {
             world.becomeLike(from);
             acts = 0;
-            reason = 0;
             heldAct = NONE;
             heldThing = NONE;
         }
 
-        private void tryAct(int kind, int parish, int number) {
-            reason = world.reasonAgainst(kind, parish, number);
+        /** Does an ACT if it can be: the reason if not; 0. */
+        private int tryAct(int kind, int parish, int number) {
+            int reason = world.reasonAgainst(kind, parish, number);
             if (reason != 0) {
-                return;
+                return reason;
             }
             int before = world.held;
             world.carryOut(kind, parish, number);
@@ -667,6 +659,7 @@ public final class StuckVanes {
                 heldThing = number;
             }
             acts++;
+            return 0;
         }
     }
 

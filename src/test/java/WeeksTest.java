@@ -229,6 +229,8 @@ public final class WeeksTest {
         x.parish(4, 0, false, 9);
         x.parish(3, 0, false, 9);
         due.is("the least of as much", x.then(4), 3);
+        x.parish(0, 0, false, 9);
+        due.is("the least of as much", x.then(4), 0);
         StuckVanes nobody = new StuckVanes();
         due.pad(nobody, "w3..");
         int[] empty = {0, 5, 3, 2, StuckVanes.NONE, StuckVanes.NONE, StuckVanes.NONE};
