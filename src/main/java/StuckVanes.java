@@ -556,7 +556,7 @@ public final class StuckVanes {
         int read() {
             acts = 0;
             int head = 0;
-            for (int place = 0; place < length; place++) {
+            for (int place = 0; place < length && place < MOST_SIGNS; place++) {
                 int sign = signs[place];
                 if (head != 0) {
                     int kind = kindOf(head, sign);
@@ -622,7 +622,7 @@ public final class StuckVanes {
             }
             startFrom(from);
             int reason = 0;
-            for (int act = 0; act < pad.acts && reason == 0; act++) {
+            for (int act = 0; act < pad.acts && act < MOST_SIGNS && reason == 0; act++) {
                 reason = tryAct(pad.kinds[act], pad.parishes[act], pad.numbers[act]);
             }
             return reason;
@@ -881,7 +881,7 @@ public final class StuckVanes {
 
         /** Of all courses of n hours, those that have been to all m ways. */
         void countHours(int m, int n) {
-            int ways = Math.min(m, COMPASS);
+            int ways = Math.max(0, Math.min(m, COMPASS));
             for (int been = 0; been <= COMPASS; been++) {
                 courses[been] = 0;
             }

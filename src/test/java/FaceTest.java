@@ -23,6 +23,7 @@ public final class FaceTest {
         constants();
         methods();
         text();
+        limits();
         due.end();
     }
 
@@ -76,8 +77,52 @@ public final class FaceTest {
         for (String word : ruledOut) {
             due.is("ruled out: " + word, source.contains(word) ? 1 : 0, 0);
         }
-        for (String line : source.split("\n")) {
-            due.is("width of " + line, line.length() > 120 ? 1 : 0, 0);
+        String[] lines = source.split("\n");
+        for (int at = 0; at < lines.length; at++) {
+            due.is("width of " + lines[at], lines[at].length() > 120 ? 1 : 0, 0);
+            due.is("made by a call: " + lines[at], isMadeByCall(lines[at]) ? 1 : 0, 0);
+            if (lines[at].matches("( {4}| {8})((public|private|static|boolean|int|long|void) )+\\w+\\(.*\\) \\{")) {
+                due.is("too long: " + lines[at], linesFrom(lines, at) > 60 ? 1 : 0, 0);
+            }
+        }
+    }
+
+    /** The room counts all that is ever made, so an object makes what it needs with its own fields. */
+    private static boolean isMadeByCall(String line) {
+        return line.matches(".*\\bnew \\w+[\\[(].*") && !line.matches(" +private final .*");
+    }
+
+    private static int linesFrom(String[] lines, int start) {
+        String end = lines[start].replaceAll("\\S.*", "}");
+        int at = start;
+        while (at < lines.length && !lines[at].equals(end)) {
+            at++;
+        }
+        return at - start + 1;
+    }
+
+    /** Rules 5 and 11: static fields are final; how many classes, fields and parameters there may be. */
+    private static void limits() {
+        Class<?>[] inner = StuckVanes.class.getDeclaredClasses();
+        due.is("no more than 12 classes", Math.max(inner.length + 1, 12), 12);
+        limitsOf(StuckVanes.class);
+        for (Class<?> one : inner) {
+            limitsOf(one);
+        }
+    }
+
+    private static void limitsOf(Class<?> one) {
+        int fields = 0;
+        for (Field field : one.getDeclaredFields()) {
+            if (Modifier.isStatic(field.getModifiers())) {
+                due.is("final " + field, field.getModifiers() & Modifier.FINAL, Modifier.FINAL);
+            } else {
+                fields++;
+            }
+        }
+        due.is("no more than 20 fields in " + one, Math.max(fields, 20), 20);
+        for (Method method : one.getDeclaredMethods()) {
+            due.is("no more than 7 parameters of " + method, Math.max(method.getParameterCount(), 7), 7);
         }
     }
 }

@@ -17,7 +17,63 @@ public final class ModelTest {
             }
             tellAll(x, model, run + " at the end");
         }
+        for (int run = 400; run < 500; run++) {
+            lateRun(run);
+        }
         due.end();
+    }
+
+    /** Full pads, the last hours and full sights, to which the other runs seldom come. */
+    private static void lateRun(int run) {
+        StuckVanes x = new StuckVanes();
+        Model model = new Model();
+        for (int parish = 0; parish < 7; parish += draw(1, 3)) {
+            int way = draw(0, 7);
+            boolean free = coin();
+            due.is(run + " parish " + parish, x.parish(parish, way, free, 0), model.parish(parish, way, free, 0));
+        }
+        fullPad(x, model, run);
+        for (int hour = draw(36, 40); hour > 0; hour--) {
+            due.is(run + " say .", x.say('.'), model.say('.'));
+        }
+        due.is(run + " done at hour 99 or so", x.done(), model.done());
+        for (int round = 0; round < 8; round++) {
+            someWeeks(x, model, run);
+            oneCall(x, model, run);
+        }
+        int points = draw(0, 7);
+        int reach = draw(0, 3);
+        for (int sight = 0; sight < 10; sight++) {
+            oneSight(x, model, run + " at " + points + ", " + reach, points, reach);
+        }
+        tellAll(x, model, run + " at the end");
+    }
+
+    /** As many hours as there is room for, and more signs than that. */
+    private static void fullPad(StuckVanes x, Model model, int run) {
+        due.is(run + " wipe", x.wipe(), model.wipe());
+        char last = coin() ? '.' : 'w';
+        for (int place = 0; place < 62; place++) {
+            char sign = place < 59 ? '.' : last;
+            due.is(run + " say " + sign + " at " + place, x.say(sign), model.say(sign));
+        }
+        due.is(run + " fault of a full pad", x.fault(), model.fault());
+        due.is(run + " hours of a full pad", x.then(3), model.then(3));
+        due.is(run + " done of a full pad", x.done(), model.done());
+        due.is(run + " wipe of a full pad", x.wipe(), model.wipe());
+    }
+
+    /** Mostly a SIGHT that fits a VANE which POINTS there and a PARISH that AGREES so far. */
+    private static void oneSight(StuckVanes x, Model model, String run, int points, int reach) {
+        int thing = draw(0, 7);
+        int eastwards = (thing - points + 8) % 8;
+        boolean agreed = Math.min(eastwards, 8 - eastwards) <= reach != (draw(0, 9) == 0);
+        due.is(run + " seen " + thing + ", " + agreed, x.seen(thing, agreed), model.seen(thing, agreed));
+        due.is(run + " ask(0)", x.ask(0), model.ask(0));
+        due.is(run + " ask(1)", x.ask(1), model.ask(1));
+        for (int i = -1; i < 32; i += draw(1, 16)) {
+            due.is(run + " stuck(" + i + ")", x.stuck(i), model.stuck(i));
+        }
     }
 
     private static int draw(int least, int most) {
